@@ -47,6 +47,7 @@ public final class PromisesTest {
         mount();
         mountOrder();
         mountBelow();
+        mountBelowByOtherNumbers();
         unmount();
         unmountBusy();
         enter();
@@ -1108,6 +1109,29 @@ public final class PromisesTest {
         is("back", enter("/"), 2);
         is("above none of them", mount(3, "/c"), 5);
         is("covers what volumes are mounted in", x().about(5, 5), 3);
+    }
+
+    private static void mountBelowByOtherNumbers() {
+        fresh("12 mount: numbers that do not rise with the depth");
+        is("a", dir("/a"), 1);
+        is("b", dir("/b"), 2);
+        is("volume", x().volume(), 1);
+        is("volume", x().volume(), 2);
+        is("remove", remove("/a"), 1);
+        is("b/c", dir("/b/c"), 1);
+        is("b/c/d", dir("/b/c/d"), 5);
+        is("mount", mount(2, "/b/c/d"), 5);
+        is("enter", enter("/b/c/d"), 4);
+        is("above", mount(1, "/b/c"), BUSY);
+        is("above that", mount(1, "/b"), BUSY);
+        is("path", x().path(), 6);
+        textIs("/b/c/d");
+        is("leave", enter("/"), 0);
+        is("e in the volume", dir("/b/c/d/e"), 6);
+        is("the first volume in the second", mount(1, "/b/c/d/e"), 6);
+        is("keeps it", unmount("/b/c/d"), BUSY);
+        is("the inner one", unmount("/b/c/d/e"), 1);
+        is("the outer one", unmount("/b/c/d"), 2);
     }
 
     private static void unmount() {
