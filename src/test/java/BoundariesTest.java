@@ -1349,6 +1349,15 @@ public final class BoundariesTest {
         refuses(b -> b.volumes(2).objectsTo(40), "", VOLUME, FULL);
         answers(b -> b.volumes(2).objectsTo(39), "", VOLUME, 3);
         refuses(b -> b.dir("/d").volumes(3).mount(2, "/d"), "/d", VOLUME, FULL);
+        refuses(b -> b.volumes(3).user(3), "/x", VOLUME, FULL);
+        refuses(b -> b.objectsTo(40).user(3), "/o1", VOLUME, FULL);
+        says("11 volume", "a refused one takes no number");
+        for (int n = 0; n <= 2; n++) {
+            Bench b = new Bench().volumes(n).objectsTo(40);
+            is("volume without an object", b.x().volume(), FULL);
+            is("mount of what was not made", b.text("/").x().mount(n + 1), BAD);
+            is("volume with an object", b.gone("/o9").x().volume(), n + 1);
+        }
         says("11 volume", "its root directory is of owner 0, with mode 15");
         int[] due = {15, 0, 1, 0, 0, 0};
         for (int what = 0; what <= 5; what++) {
